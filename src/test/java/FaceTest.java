@@ -1,0 +1,130 @@
+import java.io.IOException;
+import java.lang.reflect.Constructor;
+import java.lang.reflect.Field;
+import java.lang.reflect.Method;
+import java.lang.reflect.Modifier;
+import java.nio.file.Files;
+import java.nio.file.Path;
+import java.util.Arrays;
+import java.util.Random;
+import java.util.TreeSet;
+import java.util.regex.Matcher;
+import java.util.regex.Pattern;
+
+/** The public face is the document's and no more; no call throws, whatever its numbers are. */
+public final class FaceTest {
+    private static final int[] WILD = {0, 1, 2, 3, 7, 8, 9, 12, 39, 40, 59, 60, 100, 299, 300, 301, 399, 400, 401,
+        1000, 1001, -1, -2, -3, Integer.MAX_VALUE, Integer.MIN_VALUE};
+
+    public static void main(String[] args) throws IOException {
+        constants();
+        members();
+        language();
+        noThrow();
+        Check.end("FaceTest");
+    }
+
+    private static void constants() {
+        Check.due("BAD", TokenMachines.BAD, -1);
+        Check.due("NO", TokenMachines.NO, -2);
+        Check.due("FULL", TokenMachines.FULL, -3);
+    }
+
+    private static void members() {
+        TreeSet<String> seen = new TreeSet<>();
+        for (Field field : TokenMachines.class.getDeclaredFields()) {
+            if (!Modifier.isPrivate(field.getModifiers())) {
+                seen.add(field.getName());
+            }
+        }
+        for (Method method : TokenMachines.class.getDeclaredMethods()) {
+            if (!Modifier.isPrivate(method.getModifiers())) {
+                seen.add(method.getName() + Arrays.toString(method.getParameterTypes()) + method.getReturnType());
+            }
+        }
+        for (Constructor<?> constructor : TokenMachines.class.getDeclaredConstructors()) {
+            seen.add("new" + Arrays.toString(constructor.getParameterTypes()));
+        }
+        Check.due("the face", seen.toString(), "[BAD, FULL, NO, cost[int]int, count[int]int, feed[int, long]int, "
+                + "links[boolean]int, longest[int, int]int, match[int]int, new[], pattern[]int, same[int, int]int, "
+                + "sign[int, int]int, strange[int]int, text[]int, token[int, int]int, tokens[int, int, int]int, "
+                + "word[int]int]");
+        Check.due("final", Modifier.toString(TokenMachines.class.getModifiers()), "public final");
+    }
+
+    /** The words and signs that LANGUAGE.md leaves out; .ci/run starts the test in the project's folder. */
+    private static void language() throws IOException {
+        String source = Files.readString(Path.of("src/main/java/TokenMachines.java"));
+        String bare = source.replaceAll("(?s)/\\*.*?\\*/|//[^\n]*", "");
+        Matcher matcher = Pattern.compile("\\b(throws?|try|catch|synchronized|assert|package|protected|lambda|"
+                + "System\\.(?!arraycopy)|Thread|Random|Exact|hashCode|toString|float|double)\\b|->|::|@").matcher(
+                bare.replaceAll("'(?:\\\\.|[^\\\\])'", "0"));
+        Check.due("a word that is left out", matcher.find() ? matcher.group() : "none", "none");
+        Check.due("imports", bare.replaceAll("(?s)(.*?)public final class.*", "$1").trim(), "import java.util.Arrays;");
+    }
+
+    private static int wild(Random random) {
+        return random.nextInt(4) == 0 ? random.nextInt() : WILD[random.nextInt(WILD.length)];
+    }
+
+    private static int call(TokenMachines m, Random random, String signs) {
+        switch (random.nextInt(15)) {
+            case 0:
+                return m.text();
+            case 1:
+                return m.pattern();
+            case 2:
+                return m.word(wild(random));
+            case 3:
+                return m.strange(wild(random));
+            case 4:
+                return m.links(random.nextBoolean());
+            case 5:
+                return m.longest(wild(random), random.nextInt(3));
+            case 6:
+                return m.tokens(random.nextInt(11) - 1, wild(random), wild(random));
+            case 7:
+                return m.token(wild(random), random.nextInt(5) - 1);
+            case 8:
+                return m.sign(wild(random), wild(random));
+            case 9:
+                return m.same(wild(random), wild(random));
+            case 10:
+                return m.cost(wild(random));
+            case 11:
+                return m.match(wild(random));
+            case 12:
+                return m.count(wild(random));
+            default:
+                return Check.feed(m, signs);
+        }
+    }
+
+    private static String signs(Random random) {
+        String alphabet = random.nextBoolean() ? "ab*+?|()[]^-\\. " : "aaab/@1._, \n\u0000\u00ff";
+        StringBuilder all = new StringBuilder();
+        int length = 1 + random.nextInt(random.nextInt(4) == 0 ? 100 : 12);
+        for (int i = 0; i < length; i++) {
+            all.append(alphabet.charAt(random.nextInt(alphabet.length())));
+        }
+        return all.toString();
+    }
+
+    /** Two objects with the same calls: each call ends, and both answer the same. */
+    private static void noThrow() {
+        for (int seed = 0; seed < 400; seed++) {
+            Random one = new Random(seed);
+            Random other = new Random(seed);
+            TokenMachines m = new TokenMachines();
+            TokenMachines n = new TokenMachines();
+            for (int i = 0; i < 512; i++) {
+                int first = call(m, one, signs(one));
+                int second = call(n, other, signs(other));
+                if (first != second) {
+                    Check.due("the same calls, seed " + seed, second, first);
+                }
+            }
+            Check.due("the same end, seed " + seed, Check.shown(m), Check.shown(n));
+        }
+    }
+}
