@@ -95,6 +95,7 @@ public final class DictionaryTest {
         best("abc", "abc@0", "abc=90", "a=30", "b=30", "c=30");
         best("abc", "a@0 b@1 c@2", "abc=91", "a=30", "b=30", "c=30");
         best("abc", "ab@0 c@1", "a=40", "bc=60", "ab=60", "c=40");
+        best("abc", "ab@0 c@1", "ab=60", "c=40", "bc=60", "a=40");
         best("abc", "a@0 bc@1", "a=40", "bc=60", "ab=61", "c=40");
         best("abcd", "abc@0 d@1", "a=50", "bcd=50", "ab=50", "cd=50", "abc=50", "d=50");
         best("abcdef", "ab@0 cde@1 f@2", "ab=20", "cd=20", "ef=20", "cde=20", "f=20", "a=25", "bc=1", "def=100");

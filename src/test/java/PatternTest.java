@@ -66,6 +66,9 @@ public final class PatternTest {
         fault("[a-^]", 3);
         fault("[a--]", 3);
         fault("[a-b-c]", 4);
+        fault("[A-]", 3);
+        fault("[A-^]", 3);
+        fault("[!--]", 3);
         fault("[a^]", 2);
         fault("[b-a]", 3);
         fault("[b-a", 3);
@@ -116,6 +119,15 @@ public final class PatternTest {
         Check.due("4: empty matches none", m.match(2), 0);
         Check.due("4: a third one", Check.pattern(m, "(ab|a)+"), 3);
         Check.due("4: a third one matches", m.match(0), 3);
+        for (int i = 0; i < 3; i++) {
+            Check.due("4: a row", Check.pattern(m, "[a]a*b"), 3);
+            Check.due("4: a row matches", m.match(0), 3);
+            Check.due("4: a fault behind a row", Check.pattern(m, "aab)"), -13);
+        }
+        for (int i = 0; i < 3; i++) {
+            Check.due("4: nothing is left of others", Check.pattern(m, "b|a|b"), 3);
+            Check.due("4: nothing else matches", m.match(0), 1);
+        }
     }
 
     private static void match(String pattern, String text, int want) {
@@ -144,6 +156,10 @@ public final class PatternTest {
         match("()", "a", 0);
         match("a()b", "ab", 2);
         match("a|", "ab", 1);
+        match("(a)(b)", "aa", 0);
+        match("(|a)(b)", "c", 0);
+        match("(a|[ab])c", "ac", 2);
+        match("(a|[ab])*c", "aac", 3);
         match("(a|b)*c|a", "ababd", 1);
         match("(a|b)*c|a", "ababc", 5);
         match(".*", "ab\tc", 2);

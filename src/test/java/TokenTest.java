@@ -46,7 +46,7 @@ public final class TokenTest {
     }
 
     private static void same() {
-        TokenMachines m = Check.machine("ab abc ab aB");
+        TokenMachines m = Check.machine("ab abc ab aB bb");
         m.tokens(0, 0, 0);
         Check.due("12: itself", m.same(1, 1), 1);
         Check.due("12: same", m.same(0, 2), 1);
@@ -54,8 +54,9 @@ public final class TokenTest {
         Check.due("12: longer", m.same(0, 1), 0);
         Check.due("12: shorter", m.same(1, 0), 0);
         Check.due("12: another sign", m.same(0, 3), 0);
-        Check.due("12: no such other", m.same(0, 4), TokenMachines.BAD);
-        Check.due("12: no such one", m.same(4, 0), TokenMachines.BAD);
+        Check.due("12: another first sign", m.same(0, 4), 0);
+        Check.due("12: no such other", m.same(0, 5), TokenMachines.BAD);
+        Check.due("12: no such one", m.same(5, 0), TokenMachines.BAD);
         Check.due("12: -1", m.same(-1, 0), TokenMachines.BAD);
         Check.due("12: 0 and -1", m.same(0, -1), TokenMachines.BAD);
         Check.due("12: neither", m.same(9, 9), TokenMachines.BAD);

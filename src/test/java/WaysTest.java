@@ -59,6 +59,8 @@ public final class WaysTest {
         cut("1'2 a''b a..b", 2, "1@0 2@1 a@2 b@3 a@4 b@5");
         cut("_a_1 __ _.a a._ -", 2, "_a_1@0 __@1 _@2 a@3 a@4 _@5");
         cut("a.b.c.", 2, "a.b.c@0");
+        cut("0.9 9,0 /.9 :,9 9.:", 2, "0.9@0 9,0@1 9@2 9@3 9@4");
+        cut("z.Z A'a [.a `'z", 2, "z.Z@0 A'a@1 a@2 z@3");
         cut("me@x.org www.x", 2, "me@0 x.org@1 www.x@2");
     }
 
@@ -67,6 +69,8 @@ public final class WaysTest {
         link("@x x@ a@@ @@ @@@", "x@0 x@1 a@@@2 @@@@3");
         link("@a@ @a@b", "a@0 @a@b@1");
         link("www. www.x www.- xwww.y WWW.y-", "www@0 www.x@1 www.-@2 xwww.y@3 WWW.y@4");
+        link("wwx.y-z wxw.y-z xww.y-z www,y-z", "wwx.y@0 z@1 wxw.y@2 z@3 xww.y@4 z@5 www@6 y@7 z@8");
+        link("wwww.y-z ww.y-z w", "wwww.y@0 z@1 ww.y@2 z@3 w@4");
         link("(www.x-y) -www.x", "www.x@0 y@1 www.x@2");
         link("www.a/b?c=d\nwww./\te", "www.a/b?c=d@0 www./@1 e@2");
         link("x www.@ y", "x@0 www.@@1 y@2");
@@ -168,11 +172,17 @@ public final class WaysTest {
         m.longest(1, 0);
         m.tokens(7, 0, 0);
         Check.due("9: pieces cut", Check.brief(m), "a@0 b@1 x@2 y@3 a@4 b@5 z@6 a@7 b@8");
+        TokenMachines n = Check.machine("pqrs");
+        n.tokens(7, 0, 0);
+        Check.give(n, "p q r");
+        n.tokens(7, 0, 0);
+        Check.due("9: strange ones of two rows", Check.brief(n), "p@0 q@1 r@2");
     }
 
     private static void pairs() {
         cut("#!a%&( _", 8, "#!@0 %&@1 &(@2 _@3");
         cut("--a-1-", 8, "--@0 -@1 -@2");
+        cut("/0:9@A[`z{", 8, "/@0 :@1 @@2 [`@3 {@4");
         cut("....", 8, "..@0 ..@1 ..@2");
         cut("\u0000\r\u00ff a", 8, "\u0000\r@0 \r\u00ff@1");
         TokenMachines m = Check.machine("... !");
