@@ -382,8 +382,9 @@ public final class ReferenceTest {
         Matcher matcher = Pattern.compile(ONE + "(?:-" + ONE + ")?", Pattern.DOTALL).matcher(set);
         matcher.region(set.startsWith("[^") ? 2 : 1, set.length() - 1);
         while (matcher.find()) {
+            String low = matcher.group(1);
             String high = matcher.group(2);
-            if (high != null && high.charAt(high.length() - 1) < matcher.group(1).charAt(matcher.group(1).length() - 1)) {
+            if (high != null && high.charAt(high.length() - 1) < low.charAt(low.length() - 1)) {
                 return false;
             }
         }
