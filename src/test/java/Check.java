@@ -64,6 +64,25 @@ final class Check {
         return machine.word(cost);
     }
 
+    /** The TOKENS, in brief, of a text on a new object. */
+    static String cut(String text, int way, int a, int b) {
+        TokenMachines machine = machine(text);
+        machine.tokens(way, a, b);
+        return brief(machine);
+    }
+
+    static String cut(String text, int way) {
+        return cut(text, way, 0, 0);
+    }
+
+    /** As cut, with LONGEST and its rule. */
+    static String cutWithin(int longest, int rule, String text, int way, int a, int b) {
+        TokenMachines machine = machine(text);
+        machine.longest(longest, rule);
+        machine.tokens(way, a, b);
+        return brief(machine);
+    }
+
     /** The TOKENS that there are, each as SIGNS:place-end@POSITION. */
     static String shown(TokenMachines machine) {
         StringBuilder all = new StringBuilder();
