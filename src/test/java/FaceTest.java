@@ -5,7 +5,6 @@ import java.lang.reflect.Method;
 import java.lang.reflect.Modifier;
 import java.nio.file.Files;
 import java.nio.file.Path;
-import java.util.Arrays;
 import java.util.Random;
 import java.util.TreeSet;
 import java.util.regex.Matcher;
@@ -19,6 +18,7 @@ public final class FaceTest {
     public static void main(String[] args) throws IOException {
         constants();
         members();
+        form();
         language();
         noThrow();
         Check.end("FaceTest");
@@ -30,26 +30,65 @@ public final class FaceTest {
         Check.due("FULL", TokenMachines.FULL, -3);
     }
 
+    /** With their modifiers, as tests without a package would see package-visible ones, too. */
     private static void members() {
         TreeSet<String> seen = new TreeSet<>();
         for (Field field : TokenMachines.class.getDeclaredFields()) {
             if (!Modifier.isPrivate(field.getModifiers())) {
-                seen.add(field.getName());
+                seen.add(field.toString().replace("TokenMachines.", ""));
             }
         }
         for (Method method : TokenMachines.class.getDeclaredMethods()) {
             if (!Modifier.isPrivate(method.getModifiers())) {
-                seen.add(method.getName() + Arrays.toString(method.getParameterTypes()) + method.getReturnType());
+                seen.add(method.toString().replace("TokenMachines.", ""));
             }
         }
         for (Constructor<?> constructor : TokenMachines.class.getDeclaredConstructors()) {
-            seen.add("new" + Arrays.toString(constructor.getParameterTypes()));
+            seen.add(constructor.toString());
         }
-        Check.due("the face", seen.toString(), "[BAD, FULL, NO, cost[int]int, count[int]int, feed[int, long]int, "
-                + "links[boolean]int, longest[int, int]int, match[int]int, new[], pattern[]int, same[int, int]int, "
-                + "sign[int, int]int, strange[int]int, text[]int, token[int, int]int, tokens[int, int, int]int, "
-                + "word[int]int]");
+        Check.due("the face", String.join("; ", seen), "public TokenMachines(); public int cost(int); "
+                + "public int count(int); public int feed(int,long); public int links(boolean); "
+                + "public int longest(int,int); public int match(int); public int pattern(); "
+                + "public int same(int,int); public int sign(int,int); public int strange(int); public int text(); "
+                + "public int token(int,int); public int tokens(int,int,int); public int word(int); "
+                + "public static final int BAD; public static final int FULL; public static final int NO");
         Check.due("final", Modifier.toString(TokenMachines.class.getModifiers()), "public final");
+    }
+
+    /** What LANGUAGE.md says of classes, fields and methods in numbers, as far as the compiled class tells it. */
+    private static void form() {
+        Class<?>[] inside = TokenMachines.class.getDeclaredClasses();
+        Check.due("some twelve classes at most", inside.length < 12 ? 1 : 0, 1);
+        formOf(TokenMachines.class);
+        for (Class<?> nested : inside) {
+            int hidden = nested.getModifiers() & (Modifier.PUBLIC | Modifier.PROTECTED);
+            Check.due(nested + " is static", Modifier.isStatic(nested.getModifiers()) ? 1 : 0, 1);
+            Check.due(nested + " is not seen", hidden, 0);
+            formOf(nested);
+        }
+    }
+
+    private static void formOf(Class<?> one) {
+        int many = 0;
+        for (Field field : one.getDeclaredFields()) {
+            if (Modifier.isStatic(field.getModifiers())) {
+                Check.due(field + " is final", Modifier.isFinal(field.getModifiers()) ? 1 : 0, 1);
+            } else {
+                many++;
+            }
+        }
+        Check.due("some twenty fields at most in " + one, many <= 20 ? 1 : 0, 1);
+        TreeSet<String> open = new TreeSet<>();
+        for (Method method : TokenMachines.class.getDeclaredMethods()) {
+            if (Modifier.isPublic(method.getModifiers())) {
+                open.add(method.getName());
+            }
+        }
+        for (Method method : one.getDeclaredMethods()) {
+            Check.due("seven parameters at most: " + method, method.getParameterCount() <= 7 ? 1 : 0, 1);
+            boolean same = Modifier.isPrivate(method.getModifiers()) && open.contains(method.getName());
+            Check.due("a name of its own: " + method, same ? 1 : 0, 0);
+        }
     }
 
     /** The words and signs that LANGUAGE.md leaves out; .ci/run starts the test in the project's folder. */
