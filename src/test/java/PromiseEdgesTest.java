@@ -19,6 +19,7 @@ public final class PromiseEdgesTest {
         theCostOfAWord();
         aWordThatIsOneAlready();
         fortyWords();
+        fortyOfTwelve();
         theCostOfStrangeOnes();
         linksFromNowOn();
         longestAndItsRule();
@@ -255,6 +256,21 @@ public final class PromiseEdgesTest {
         Check.due("5: another one's COST", m.cost(6), 10);
         Check.give(m, "zz");
         Check.due("5: the last one's COST", m.cost(0), 10);
+    }
+
+    /** The most that a dictionary can hold: each WORD is still one, for its own COST. */
+    private static void fortyOfTwelve() {
+        TokenMachines m = new TokenMachines();
+        for (int i = 0; i < 40; i++) {
+            Check.due("5: twelve SIGNS, number " + i, Check.word(m, "abcdefghijk" + (char) ('0' + i), 1 + i), i);
+        }
+        for (int i = 0; i < 40; i += 3) {
+            String word = "abcdefghijk" + (char) ('0' + i);
+            Check.due("5: twelve SIGNS again, number " + i, Check.word(m, word, 1), NO);
+            Check.give(m, word);
+            Check.due("13: twelve SIGNS, number " + i, m.cost(11), 1 + i);
+        }
+        Check.due("5: the forty-first of twelve", Check.word(m, "abcdefghijkl", 1), FULL);
     }
 
     /** "The COST of a STRANGE one becomes n: what it was. BAD: n is not 1 .. 1000." */
